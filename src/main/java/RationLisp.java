@@ -179,7 +179,9 @@ public final class RationLisp {
         int many = 0;
         for (int i = 0; i < hours; i++) {
             orders.hour++;
-            for (int number = 0; number < orders.count; number++) {
+            // Orders that scripts make now are for later hours.
+            int made = orders.count;
+            for (int number = 0; number < made; number++) {
                 Order order = orders.rows[number];
                 if (order.state == WAITING && order.hour == orders.hour) {
                     run.execute(number, order.budget);
@@ -755,29 +757,25 @@ public final class RationLisp {
         }
 
         void move(int giver, int taker, int moved, int many, int order) {
-            if (isFull()) {
-                return;
+            if (count < MOST_MOVES) {
+                from[count] = giver;
+                to[count] = taker;
+                good[count] = moved;
+                amount[count] = many;
+                by[count] = order;
+                count++;
+                stocks[giver + 1][moved] -= many;
+                stocks[taker + 1][moved] += many;
             }
-            from[count] = giver;
-            to[count] = taker;
-            good[count] = moved;
-            amount[count] = many;
-            by[count] = order;
-            count++;
-            shift(giver, taker, moved, many);
         }
 
         /** Undoes the latest moves, until only so many are left. */
         void undoTo(int left) {
             for (int i = count - 1; i >= left && i >= 0; i--) {
-                shift(to[i], from[i], good[i], amount[i]);
+                stocks[to[i] + 1][good[i]] -= amount[i];
+                stocks[from[i] + 1][good[i]] += amount[i];
                 count = i;
             }
-        }
-
-        private void shift(int giver, int taker, int moved, int many) {
-            stocks[giver + 1][moved] -= many;
-            stocks[taker + 1][moved] += many;
         }
     }
 
@@ -874,7 +872,7 @@ public final class RationLisp {
 
         /** Returns the good whose letter a name is; NONE if it is none. */
         static int goodOf(int name) {
-            return isIn(name, 1, GOODS) ? name - 1 : NONE;
+            return name >= 1 && name <= GOODS ? name - 1 : NONE;
         }
 
         /** Returns the word of a name; null if it is none of them. */

@@ -1,15 +1,24 @@
 import java.lang.reflect.InvocationTargetException;
 import java.lang.reflect.Method;
+import java.util.HashMap;
+import java.util.Map;
 
 /** Makes calls that are written as texts, such as "order 0 1 5 100"; what is thrown counts as an answer. */
 final class Calls {
     private static final int MOST_CALLS = 512;
 
     private final Object target;
+    private final Map<String, Method> methods = new HashMap<>();
     private int count;
 
     Calls(Object target) {
         this.target = target;
+        for (Method method : target.getClass().getDeclaredMethods()) {
+            if (!method.isSynthetic()) {
+                method.setAccessible(true);
+                methods.put(method.getName() + " " + method.getParameterCount(), method);
+            }
+        }
     }
 
     /** Returns the answer as a text: a number, 1 or 0 for a boolean, or throws. and an exception's name. */
@@ -48,12 +57,10 @@ final class Calls {
     }
 
     private Method methodNamed(String name, int parameters) {
-        for (Method method : target.getClass().getDeclaredMethods()) {
-            if (method.getName().equals(name) && method.getParameterCount() == parameters) {
-                method.setAccessible(true);
-                return method;
-            }
+        Method method = methods.get(name + " " + parameters);
+        if (method == null) {
+            throw new IllegalStateException("no method " + name + " with " + parameters + " parameters");
         }
-        throw new IllegalStateException("no method " + name + " with " + parameters + " parameters");
+        return method;
     }
 }

@@ -52,7 +52,8 @@ public final class OrdersTest {
         for (int i = 2; i <= 9; i++) {
             due.is(0, "pass 100").is(i * 100, "hour");
         }
-        due.with("order 0 0 100 1", "order 0 0 99 1", "pass 1").is(Due.STATE, "pass 100").is(901, "hour").is(1, "pass 98");
+        due.with("order 0 0 100 1", "order 0 0 99 1", "pass 1").is(Due.STATE, "pass 100");
+        due.is(901, "hour").is(1, "pass 98");
         due.is(Due.STATE, "pass 2").is(Due.ARGUMENT, "pass 101").is(0, "state 2").is(1, "pass 1").is(1000, "hour");
         due.is(Due.STATE, "pass 1").with("order 0 0 1 1").is(1001, "hourOf 4").is(Due.STATE, "pass 1").is(0, "state 4");
     }
@@ -106,7 +107,8 @@ public final class OrdersTest {
     }
 
     private static void promise24Orders() {
-        Due due = new Due("orders").is(0, "orders").with("order 0 0 1 1").is(1, "orders").is(Due.ARGUMENT, "order 9 9 9 9");
+        Due due = new Due("orders").is(0, "orders").with("order 0 0 1 1").is(1, "orders");
+        due.is(Due.ARGUMENT, "order 9 9 9 9");
         due.is(1, "orders").text(0, "(at 1 1 1)").fuel(0, 10).with("order 0 0 1 5", "pass 1").is(3, "orders");
     }
 
@@ -169,7 +171,8 @@ public final class OrdersTest {
     private static void undoneInTheMidst() {
         // the moves of the expression are undone, the earlier ones stay; so do fuel, debts and rations
         Due due = new Due("undone in the midst").with("supply 0 20", "supply 1 20", "giveRations 0 9", "setBuying 0 1");
-        due.text(0, "(take a 5)(do(take a 6)(take b 3)(put a 2)(give 1 a 4)(give 2 b 1)(at 1 1 1)(at 2 1 1)(take a x))");
+        due.text(0, "(take a 5)");
+        due.text(0, "(do(take a 6)(take b 3)(put a 2)(give 1 a 4)(give 2 b 1)(at 1 1 1)(at 2 1 1)(take a x))");
         due.with("order 0 0 1 100", "pass 1").is(3, "state 0").is(3, "why 0").is(1, "done 0").is(5, "value 0");
         due.is(5, "stock 0 0").is(15, "stock -1 0").is(0, "stock 1 0").is(0, "stock 2 1").is(20, "stock -1 1");
         due.is(5, "stockByMoves 0 0").is(15, "stockByMoves -1 0").is(20, "stockByMoves -1 1").is(1, "moves");

@@ -104,6 +104,8 @@ public final class StocksTest {
         other.with("setCredit 0 1 9", "setCredit 2 1 9", "setCredit 1 2 9", "order 1 0 1 9", "pass 1");
         other.is(1, "state 0").is(0, "debt 1 0").is(3, "debt 1 2").is(7, "fuel 2");
         other.with("order 2 0 1 9", "pass 1").is(4, "fuel 2").is(0, "debt 2 1").is(1, "state 1");
+        other.text(1, "1 2 3 4 5").with("order 1 1 1 9", "pass 1").is(2, "state 2").is(4, "done 2").is(0, "fuel 2");
+        other.is(7, "debt 1 2");
     }
 
     private static void promise14PayBack() {
