@@ -36,6 +36,15 @@ final class Due {
         return this;
     }
 
+    /** Makes a call with right arguments; the state may forbid it. */
+    Due isTaken(String call) {
+        String answer = calls.answer(call);
+        if (answer.startsWith("throws.") && !answer.equals(STATE)) {
+            tell(name + ": " + call + " answered " + answer);
+        }
+        return this;
+    }
+
     Due text(int script, String text) {
         for (int i = 0; i < text.length(); i++) {
             with("type " + script + " " + (int) text.charAt(i));

@@ -1,7 +1,13 @@
 import java.util.ArrayList;
+import java.util.HashMap;
 import java.util.List;
+import java.util.Map;
 
-/** Makes many runs of calls, always the same ones, on the program and on the model, and compares the answers. */
+/**
+ * Makes many runs of calls, always the same ones, on the program and on the model, and compares the answers. Calls
+ * with wrong arguments are made on the program alone: that it answers like the model then shows that they change
+ * nothing.
+ */
 public final class ModelTest {
     private static final int RUNS = 2000, MOST_CALLS = 512, MOST_TYPED = 330;
     private static final String[] PAIRS = {
@@ -18,6 +24,8 @@ public final class ModelTest {
         "(def ff(x y z)(add x(mul y z)))(ff # # #)",
     };
 
+    /** Calls with wrong arguments, and the exceptions that are due. */
+    private final Map<String, String> wrongCalls = new HashMap<>();
     private long seed;
 
     private ModelTest(long seed) {
@@ -44,7 +52,7 @@ public final class ModelTest {
         StringBuilder told = new StringBuilder(name);
         for (String call : calls()) {
             String answer = program.answer(call);
-            String due = model.answer(call);
+            String due = wrongCalls.containsKey(call) ? wrongCalls.get(call) : model.answer(call);
             told.append(told(call, answer));
             if (!answer.equals(due)) {
                 Due.tell(told + ", due is " + due);
@@ -93,6 +101,9 @@ public final class ModelTest {
         }
         while (calls.size() < MOST_CALLS - 15) {
             calls.add(upTo(2) == 0 ? settingCall() : upTo(2) == 0 ? lookingCall() : orderCall());
+            if (upTo(9) == 0) {
+                calls.add(wrongCall());
+            }
             if (upTo(14) == 0 && calls.size() < MOST_CALLS - 40) {
                 String wrong = upTo(5) == 0 ? ")" : "";
                 addTyped(calls, upTo(3), oneOf(" 7", " x", "(take b 2)", "(call 1)", "(put a 1)", wrong));
@@ -154,6 +165,28 @@ public final class ModelTest {
             boolean mayBeStore = i == 1 && words[0].startsWith("stock");
             call.append(' ').append(mayBeStore ? upTo(4) - 1 : upTo(Integer.parseInt(words[i])));
         }
+        return call.toString();
+    }
+
+    /** Makes a call that has one wrong argument, or more. */
+    private String wrongCall() {
+        String told = oneOf(Ranges.CALLS);
+        String[] kinds = told.split(" ");
+        boolean[] areWrong = new boolean[kinds.length];
+        areWrong[1 + upTo(kinds.length - 2)] = true;
+        StringBuilder call = new StringBuilder(kinds[0]);
+        for (int i = 1; i < kinds.length; i++) {
+            // There may be no order yet, so that none of its numbers would be right.
+            boolean isMeant = areWrong[i] || kinds[i].equals("number") || upTo(3) == 0;
+            areWrong[i] = isMeant && Ranges.wrong(kinds[i]).length > 0;
+            int[] numbers = areWrong[i] ? Ranges.wrong(kinds[i]) : Ranges.right(kinds[i]);
+            call.append(' ').append(numbers[upTo(numbers.length - 1)]);
+        }
+        String due = Ranges.due(told, areWrong, "");
+        if (due.isEmpty()) {
+            return "hour";
+        }
+        wrongCalls.put(call.toString(), due);
         return call.toString();
     }
 

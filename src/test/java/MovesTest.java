@@ -62,5 +62,9 @@ public final class MovesTest {
         due.is(2, "why 10").is(4, "done 10").is(3000, "moves").is(21, "stock 0 0").is(21, "stockByMoves 0 0");
         due.is(79, "stockByMoves -1 0").is(6, "movedAmount 2999").is(Due.INDEX, "movedAmount 3000");
         due.with("erase 2 120").text(2, "1 2 3 4(take b -1)").is(3, "takeUp 10 99").is(6, "why 10");
+        due.with("erase 2 11").text(2, "(put a 1)").is(3, "takeUp 10 99").is(2, "why 10").is(3000, "moves");
+        due.with("erase 2 9").text(2, "(give 1 a 1)").is(3, "takeUp 10 99").is(2, "why 10").is(21, "stock 0 0");
+        due.with("erase 2 12").text(2, "(put b 1)(give 1 b 1)").is(1, "takeUp 10 99").is(0, "value 10");
+        due.is(6, "done 10").is(3000, "moves").is(0, "stock 1 0").is(79, "stock -1 0");
     }
 }

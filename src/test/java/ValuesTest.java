@@ -237,12 +237,13 @@ public final class ValuesTest {
     private static void malformed() {
         for (String text : new String[] {
             "()", "(5)", "((add) 1 2)", "(-1 2)", "(add)", "(add 1)", "(add 1 2 3)", "(sub 1)", "(mul 1 2 3)",
-            "(min 1)", "(max 1)", "(div 1)", "(mod 1 2 3)", "(less 1)", "(same 1)", "(not)", "(not 1 2)", "(and 1)", "(and 0)",
-            "(and 1 2 3)", "(or 1)", "(or 1 2 3)", "(if 1 2)", "(if 1 2 3 4)", "(while 0)", "(while)", "(do)",
-            "(let x 5)", "(let)", "(let 5 5 5)", "(let (x) 5 5)", "(set x)", "(set 5 5)", "(set (x) 1)", "(set x 1 2)", "(take a)",
-            "(take 5 5)", "(take i 5)", "(take aa 5)", "(take (a) 5)", "(take a 5 5)", "(put i 1)", "(put a)",
-            "(put a 1 2)", "(give 1 a)", "(give 1 i 1)", "(give a 1 1)", "(give 1 a 1 1)", "(at 1 1)", "(at 1 1 1 1)",
-            "(call)", "(call 1 2)", "(buy)", "(buy 1 2)", "(fuel 1)", "(hour 1)", "(let x x)", "(take x x)",
+            "(min 1)", "(max 1)", "(div 1)", "(mod 1 2 3)", "(less 1)", "(same 1)", "(not)", "(not 1 2)", "(and 1)",
+            "(and 0)", "(and 1 2 3)", "(or 1)", "(or 1 2 3)", "(if 1 2)", "(if 1 2 3 4)", "(while 0)", "(while)",
+            "(do)", "(let x 5)", "(let)", "(let 5 5 5)", "(let (x) 5 5)", "(set x)", "(set 5 5)", "(set (x) 1)",
+            "(set x 1 2)", "(take a)", "(take 5 5)", "(take i 5)", "(take aa 5)", "(take (a) 5)", "(take a 5 5)",
+            "(put i 1)", "(put a)", "(put a 1 2)", "(give 1 a)", "(give 1 i 1)", "(give a 1 1)", "(give 1 a 1 1)",
+            "(at 1 1)", "(at 1 1 1 1)", "(call)", "(call 1 2)", "(buy)", "(buy 1 2)", "(fuel 1)", "(hour 1)",
+            "(let x x)", "(take x x)",
         }) {
             faulty(MALFORMED, text).is(1, "used 1").is(0, "done 1");
         }
