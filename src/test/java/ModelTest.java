@@ -21,7 +21,9 @@ public final class ModelTest {
         "(def i()1)(def j()2)(def k()3)(def l()4)(def m()5)(def n()6)(def o()7)", "(do(take a #)(put a 2)c)",
         "(let x #(set x(add x 1))x)", "(at # 1 50)", "(at 1 # #)",
         "(while(less b #)(take b 3)(buy 1))", "(do(at 1 0 9)(buy #)(div # 0))",
-        "(def ff(x y z)(add x(mul y z)))(ff # # #)",
+        "(def ff(x y z)(add x(mul y z)))(ff # # #)", "(def ff(x)(add x 1))(ff(do(def ff(x)9)(ff #)))",
+        "(def o()8)(def p()9)(def o(n)n)(o(p))", "(def o(n n)1)", "(def gg()(gg))(gg)", "(let a #(call 2)a)",
+        "(let x #(def gg(y)(add y x)))(gg 1)", "(give(add 2 #)a(div # b))", "(let n 3(while(set n(sub n 1))(call 1)))",
     };
 
     /** Calls with wrong arguments, and the exceptions that are due. */
